@@ -5,6 +5,7 @@ public final class BestTest {
         switches();
         terms();
         seasons();
+        tenPlans();
         cantBeHad();
         wrongOnes();
         whatStays();
@@ -83,6 +84,31 @@ public final class BestTest {
         Check.due("none behind", only.best(1, 4, 5), -1);
         Check.due("MONTH 2", only.best(1, 2, 24), 22);
         Check.due("MONTH 3", only.best(1, 3, 24), 21);
+    }
+
+    /** PLAN k is the cheapest one in MONTH k; the first one is in MONTHS 10 to 23, too. */
+    private static void tenPlans() {
+        StringBuilder text = new StringBuilder("plan a fee 0;");
+        for (int k = 1; k < 10; k++) {
+            text.append("plan ").append((char) ('a' + k)).append(" fee 2 for 0 free ").append(10 * k).append(" rest 1;");
+        }
+        TariffDesk desk = Check.deskWith(text.toString(), 10);
+        Check.due("the first PLAN alone", desk.best(15, 0, 24), 0);
+        Check.uses(desk, 0, 0, 1, 10, 20, 30, 40, 50, 60, 70, 80, 90);
+        int[] row = new int[24];
+        for (int k = 0; k < 10; k++) {
+            row[k] = k;
+        }
+        Check.due("ten PLANS", desk.best(1, 0, 24), 18);
+        Check.dueRow(desk, 0, row);
+        Check.due("the tenth PLAN", desk.best(1, 9, 10), 2);
+        Check.dueRow(desk, 9, 9);
+        desk.change(5);
+        Check.due("ten PLANS with SWITCH", desk.best(1, 0, 24), 10 * 2 + 5);
+        Check.dueRow(desk, 0, 9, 9, 9, 9, 9, 9, 9, 9, 9, 9, 0, 0, 0, 0, 0, 0, 0, 0, 0, 0, 0, 0, 0, 0);
+        Check.due("bills", desk.bills(), 10 * 2 + 5);
+        Check.due("group(0)", desk.group(0), 1);
+        Check.due("group(3)", desk.group(3), 8);
     }
 
     private static void cantBeHad() {

@@ -231,7 +231,7 @@ public final class ModelTest {
     private static void manyMonths() {
         TariffDesk desk = new TariffDesk();
         Model model = new Model();
-        drawPlans(desk, model, 1 + draw(8), 30, 1 + draw(30));
+        drawPlans(desk, model, 1 + draw(10), 30, 1 + draw(30));
         drawUses(desk, model, 1 + draw(40), draw(4));
         drawSwitch(desk, model, 200);
         for (int k = 0; k < 5; k++) {
