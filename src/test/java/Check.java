@@ -8,8 +8,22 @@ final class Check {
     }
 
     private static int wrong = 0;
+    private static int wrongHere = 0;
+    private static String sentence = "";
 
     private Check() {
+    }
+
+    /** A test of its own for a sentence of the document: what is wrong in it is told with the sentence. */
+    static void sentence(String words, Runnable test) {
+        sentence = "[" + words + "] ";
+        wrongHere = 0;
+        try {
+            test.run();
+        } catch (RuntimeException e) {
+            tellWrong("threw " + e);
+        }
+        sentence = "";
     }
 
     static void due(String call, long got, long want) {
@@ -34,8 +48,9 @@ final class Check {
 
     private static void tellWrong(String text) {
         wrong++;
-        if (wrong <= 50) {
-            System.out.println(text);
+        wrongHere++;
+        if (wrongHere <= 20) {
+            System.out.println(sentence + text);
         }
     }
 
@@ -95,6 +110,15 @@ final class Check {
             boolean within = month >= from && month < from + plans.length;
             due("had(" + month + ")", desk.had(month), within ? plans[month - from] : TariffDesk.NONE);
         }
+    }
+
+    /** So many PLANS, named a, b, c and so on, of thirteen bytes each. */
+    static String manyPlans(int count) {
+        StringBuilder text = new StringBuilder();
+        for (int k = 0; k < count; k++) {
+            text.append("plan ").append((char) ('a' + k)).append(" fee 5;");
+        }
+        return text.toString();
     }
 
     static String blanks(int count) {

@@ -14,7 +14,7 @@ public final class ModelTest {
         for (int k = 0; k < 3000; k++) {
             longText();
         }
-        for (int k = 0; k < 600; k++) {
+        for (int k = 0; k < 1000; k++) {
             costsAndRows();
         }
         for (int k = 0; k < 150; k++) {
@@ -179,7 +179,8 @@ public final class ModelTest {
         drawPlans(desk, model, 1 + draw(4), small, 1 + draw(6));
         drawUses(desk, model, small * 2, draw(5));
         drawSwitch(desk, model, 8);
-        for (int k = 0; k < 10; k++) {
+        // No more: a desk has 512 calls.
+        for (int k = 0; k < 6; k++) {
             int p = draw(model.plans.size());
             int houses = 1 + draw(15);
             int month = draw(24);

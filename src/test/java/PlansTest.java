@@ -187,52 +187,43 @@ public final class PlansTest {
         Check.due("a SERVICE in two PLANS", Check.plans(desk, "plan a fee 5 for 1 rest 1;plan b fee 5 for 1 rest 1;"), 2);
     }
 
-    private static String manyPlans(int count) {
-        StringBuilder text = new StringBuilder();
-        for (int k = 0; k < count; k++) {
-            text.append("plan ").append((char) ('a' + k)).append(" fee 5;");
-        }
-        return text.toString();
-    }
-
     private static void tooMany() {
-        TariffDesk desk = Check.deskWith(manyPlans(10), 10);
+        TariffDesk desk = Check.deskWith(Check.manyPlans(10), 10);
         duePlan(desk, 9, 5, 1, 0, 23, 0);
-        Check.dueFault(desk, manyPlans(11), 130, 4);
-        Check.dueFault(desk, manyPlans(10) + " plan", 131, 4);
-        Check.dueFault(desk, manyPlans(10) + "fee", 130, 1);
-        Check.dueFault(desk, manyPlans(10) + "plana", 130, 1);
+        Check.dueFault(desk, Check.manyPlans(11), 130, 4);
+        Check.dueFault(desk, Check.manyPlans(10) + " plan", 131, 4);
+        Check.dueFault(desk, Check.manyPlans(10) + "fee", 130, 1);
+        Check.dueFault(desk, Check.manyPlans(10) + "plana", 130, 1);
         Check.dueFault(desk, PART + "to 1 at 1 to 2 at 1 to 3 at 1 to", 49, 4);
         Check.dueFault(desk, PART + "to 1 at 1 to 2 at 1 to 3 at 1 to 1", 49, 4);
         Check.deskWith(PART + "to 1 at 1 to 2 at 1 to 3 at 1 rest 1 for 1 to 1 at 1 to 2 at 1 to 3 at 1 rest 1;", 1);
     }
 
     private static void longTexts() {
-        TariffDesk desk = new TariffDesk();
         String text = "plan a fee 5;";
-        Check.due("800 bytes", Check.plans(desk, text + Check.blanks(787)), 1);
-        Check.dueFault(desk, text + Check.blanks(788), 800, 1);
-        Check.dueFault(desk, text + Check.blanks(827), 800, 1);
-        Check.dueFault(desk, Check.blanks(787) + text + "\0", 800, 1);
-        Check.dueFault(desk, Check.blanks(840), 800, 1);
-        Check.dueFault(desk, Check.blanks(800), 800, 1);
-        Check.dueFault(desk, Check.blanks(799), 799, 1);
-        Check.dueFault(desk, Check.blanks(799) + "plan a fee 5;", 800, 1);
-        Check.dueFault(desk, Check.blanks(799) + "fee", 799, 1);
-        Check.dueFault(desk, Check.blanks(800) + "fee", 800, 1);
-        Check.dueFault(desk, text + Check.blanks(780) + "plan abcdefgh", 800, 1);
-        Check.dueFault(desk, text + Check.blanks(780) + "plan abcdefghi", 798, 1);
-        Check.dueFault(desk, text + Check.blanks(780) + "plan  a", 799, 3);
-        Check.dueFault(desk, text + Check.blanks(781) + "plan a", 799, 3);
-        Check.dueFault(desk, text + Check.blanks(781) + "plan  a", 800, 1);
-        Check.dueFault(desk, text + Check.blanks(780) + "plan a", 798, 3);
-        Check.dueFault(desk, text + Check.blanks(780) + "plan a  ", 798, 3);
-        Check.dueFault(desk, text + Check.blanks(780) + "plan aa ", 800, 1);
-        Check.dueFault(desk, text + Check.blanks(775) + "plan b fee 999999;", 800, 1);
-        Check.dueFault(desk, manyPlans(10) + Check.blanks(669) + "plan", 799, 4);
-        Check.dueFault(desk, manyPlans(10) + Check.blanks(670) + "plan", 800, 1);
-        Check.dueFault(desk, PART + "free " + Check.blanks(775) + "30000 rest 1;", 799, 2);
-        Check.dueFault(desk, PART + "free " + Check.blanks(776) + "30000 rest 1;", 800, 1);
+        Check.due("800 bytes", Check.plans(new TariffDesk(), text + Check.blanks(787)), 1);
+        Check.dueFault(new TariffDesk(), text + Check.blanks(788), 800, 1);
+        Check.dueFault(new TariffDesk(), text + Check.blanks(827), 800, 1);
+        Check.dueFault(new TariffDesk(), Check.blanks(787) + text + "\0", 800, 1);
+        Check.dueFault(new TariffDesk(), Check.blanks(840), 800, 1);
+        Check.dueFault(new TariffDesk(), Check.blanks(800), 800, 1);
+        Check.dueFault(new TariffDesk(), Check.blanks(799), 799, 1);
+        Check.dueFault(new TariffDesk(), Check.blanks(799) + "plan a fee 5;", 800, 1);
+        Check.dueFault(new TariffDesk(), Check.blanks(799) + "fee", 799, 1);
+        Check.dueFault(new TariffDesk(), Check.blanks(800) + "fee", 800, 1);
+        Check.dueFault(new TariffDesk(), text + Check.blanks(780) + "plan abcdefgh", 800, 1);
+        Check.dueFault(new TariffDesk(), text + Check.blanks(780) + "plan abcdefghi", 798, 1);
+        Check.dueFault(new TariffDesk(), text + Check.blanks(780) + "plan  a", 799, 3);
+        Check.dueFault(new TariffDesk(), text + Check.blanks(781) + "plan a", 799, 3);
+        Check.dueFault(new TariffDesk(), text + Check.blanks(781) + "plan  a", 800, 1);
+        Check.dueFault(new TariffDesk(), text + Check.blanks(780) + "plan a", 798, 3);
+        Check.dueFault(new TariffDesk(), text + Check.blanks(780) + "plan a  ", 798, 3);
+        Check.dueFault(new TariffDesk(), text + Check.blanks(780) + "plan aa ", 800, 1);
+        Check.dueFault(new TariffDesk(), text + Check.blanks(775) + "plan b fee 999999;", 800, 1);
+        Check.dueFault(new TariffDesk(), Check.manyPlans(10) + Check.blanks(669) + "plan", 799, 4);
+        Check.dueFault(new TariffDesk(), Check.manyPlans(10) + Check.blanks(670) + "plan", 800, 1);
+        Check.dueFault(new TariffDesk(), PART + "free " + Check.blanks(775) + "30000 rest 1;", 799, 2);
+        Check.dueFault(new TariffDesk(), PART + "free " + Check.blanks(776) + "30000 rest 1;", 800, 1);
     }
 
     private static void whatStays() {

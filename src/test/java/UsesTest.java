@@ -68,7 +68,7 @@ public final class UsesTest {
         Check.due("tape", desk.count(2), 0);
         for (int h = 0; h < 4; h++) {
             for (int s = 0; s < 4; s++) {
-                for (int m = 0; m < 24; m++) {
+                for (int m = 0; m < 24; m += m < 3 || m > 19 ? 1 : 4) {
                     Check.due("none comes", desk.use(h, s, m), 5);
                 }
             }
