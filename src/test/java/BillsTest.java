@@ -10,9 +10,7 @@ public final class BillsTest {
     }
 
     private static void dueGroups(TariffDesk desk, int... groups) {
-        for (int house = 0; house < 4; house++) {
-            Check.due("group(" + house + ")", desk.group(house), groups[house]);
-        }
+        Check.dueGroups(desk, groups);
         int[] wrong = {-1, 4, 5, Integer.MAX_VALUE, Integer.MIN_VALUE};
         for (int house : wrong) {
             Check.due("group(" + house + ")", desk.group(house), -1);

@@ -111,12 +111,6 @@ public final class CallEdgesTest {
         Check.dueThrown("octet(" + want.length() + ")", () -> desk.octet(want.length()));
     }
 
-    private static void dueGroups(TariffDesk desk, int... groups) {
-        for (int house = 0; house < 4; house++) {
-            Check.due("group(" + house + ")", desk.group(house), groups[house]);
-        }
-    }
-
     // --- 1 a new object
 
     private static void newObject() {
@@ -282,14 +276,20 @@ public final class CallEdgesTest {
             Check.dueThrown("behind it", () -> desk.plan(behind, 0));
         }
         // What the earlier ones had is gone: fee, term, from, until, PARTS, free, STEPS.
-        Check.plans(desk, "plan a fee 9 term 9 from 9 until 9 for 0 free 9 to 9 at 9 rest 9 for 1 rest 9;");
-        Check.plans(desk, "plan b fee 1 for 0 rest 2;");
-        int[] want = {1, 1, 0, 23, 1};
-        for (int what = 0; what < 5; what++) {
-            Check.due("plan(0, " + what + ")", desk.plan(0, what), want[what]);
-        }
         Check.uses(desk, 0, 0, 0, 20);
-        Check.due("PART", desk.cost(0, 1, 0, 2), 40);
+        for (int early = 1; early <= 3; early++) {
+            for (int k = 0; k < early; k++) {
+                Check.plans(desk, "plan a fee 9 term 9 from 9 until 9 for 0 free 9 to 9 at 9 rest 9 for 1 rest 9;");
+            }
+            for (int k = 0; k < 3; k++) {
+                Check.plans(desk, "plan b fee 1 for 0 rest 2;");
+                int[] want = {1, 1, 0, 23, 1};
+                for (int what = 0; what < 5; what++) {
+                    Check.due("plan(0, " + what + ")", desk.plan(0, what), want[what]);
+                }
+                Check.due("PART", desk.cost(0, 1, 0, 2), 40);
+            }
+        }
         // USES, SWITCH, SPANS and OUT are none of the PLANS.
         desk.change(3);
         desk.span(0, 1, 1);
@@ -355,7 +355,7 @@ public final class CallEdgesTest {
             Check.due("name(0)", desk.name(0), 3);
             dueOut(desk, "abc");
             Check.dueRow(desk, 0, 0, 0);
-            dueGroups(desk, 15, 15, 15, 15);
+            Check.dueGroups(desk, 15, 15, 15, 15);
             // The next text is read as if there had been no FAULT.
             Check.due("the next text", Check.plans(desk, "plan c fee 1;plan d fee 2;"), 2);
             Check.due("its fee", desk.plan(1, 0), 2);
@@ -817,20 +817,22 @@ public final class CallEdgesTest {
 
     private static void noneThen() {
         TariffDesk desk = Check.deskWith("plan a fee 1;", 1);
-        desk.best(1, 3, 5);
-        Check.due("had(2)", desk.had(2), NONE);
-        Check.due("had(3)", desk.had(3), 0);
-        Check.due("had(4)", desk.had(4), 0);
-        Check.due("had(5)", desk.had(5), NONE);
         desk.best(1, 0, 24);
         Check.due("had(0)", desk.had(0), 0);
         Check.due("had(23)", desk.had(23), 0);
         for (int month : wrong(24, 25)) {
             Check.due("had(" + month + ")", desk.had(month), NONE);
         }
+        // MONTHS of an earlier ROW are none of this one.
+        desk.best(1, 3, 5);
+        Check.dueRow(desk, 3, 0, 0);
+        for (int month : wrong(24, 25)) {
+            Check.due("had(" + month + ")", desk.had(month), NONE);
+        }
     }
 
     private static void rowForgotten() {
+        Check.dueRow(new TariffDesk(), 0);
         TariffDesk desk = Check.deskWith("plan a fee 1;", 1);
         Check.dueRow(desk, 0);
         desk.best(1, 0, 0);
@@ -867,24 +869,24 @@ public final class CallEdgesTest {
     private static void noBills() {
         TariffDesk desk = new TariffDesk();
         Check.due("no PLANS", desk.bills(), NONE);
-        dueGroups(desk, NONE, NONE, NONE, NONE);
+        Check.dueGroups(desk, NONE, NONE, NONE, NONE);
         Check.plans(desk, "plan a fee 1 from 1 until 23;");
         Check.due("none may begin in MONTH 0", desk.bills(), NONE);
-        dueGroups(desk, NONE, NONE, NONE, NONE);
+        Check.dueGroups(desk, NONE, NONE, NONE, NONE);
         Check.plans(desk, "plan a fee 1 for 0 free 1 rest 9999;");
         Check.uses(desk, 0, 0, 0, 1);
         Check.uses(desk, 1, 0, 0, 1);
         Check.due("bills()", desk.bills(), 48);
-        dueGroups(desk, 1, 14, 14, 14);
+        Check.dueGroups(desk, 1, 14, 14, 14);
         for (int house = 0; house < 4; house++) {
             Check.uses(desk, house, 1, 23, 1);
             Check.due("one HOUSE has none", desk.bills(), NONE);
-            dueGroups(desk, 1, 14, 14, 14);
+            Check.dueGroups(desk, 1, 14, 14, 14);
             Check.uses(desk, house, 1, 23, 0);
         }
         Check.uses(desk, 1, 0, 0, 0);
         Check.due("again", desk.bills(), 24);
-        dueGroups(desk, 15, 15, 15, 15);
+        Check.dueGroups(desk, 15, 15, 15, 15);
     }
 
     private static void rowStaysBehindBills() {
@@ -905,19 +907,19 @@ public final class CallEdgesTest {
     private static void latestGroups() {
         TariffDesk desk = Check.deskWith("plan a fee 1 for 0 free 1 rest 9999;", 1);
         Check.due("bills()", desk.bills(), 24);
-        dueGroups(desk, 15, 15, 15, 15);
+        Check.dueGroups(desk, 15, 15, 15, 15);
         Check.uses(desk, 0, 0, 0, 1);
         Check.uses(desk, 3, 0, 0, 1);
-        dueGroups(desk, 15, 15, 15, 15);
+        Check.dueGroups(desk, 15, 15, 15, 15);
         desk.best(1, 0, 3);
-        dueGroups(desk, 15, 15, 15, 15);
+        Check.dueGroups(desk, 15, 15, 15, 15);
         Check.due("the next bills()", desk.bills(), 48);
-        dueGroups(desk, 1, 14, 14, 14);
+        Check.dueGroups(desk, 1, 14, 14, 14);
         Check.uses(desk, 0, 0, 0, 0);
         Check.uses(desk, 2, 0, 0, 1);
         Check.due("the next bills()", desk.bills(), 48);
         // HOUSES 2 and 3 are apart in 5 and 10, 7 and 8, 9 and 6, 11 and 4.
-        dueGroups(desk, 5, 10, 5, 10);
+        Check.dueGroups(desk, 5, 10, 5, 10);
     }
 
     private static void noSuchHouse() {
@@ -926,26 +928,27 @@ public final class CallEdgesTest {
             Check.due("group(" + house + ")", desk.group(house), NONE);
         }
         desk.bills();
-        dueGroups(desk, 15, 15, 15, 15);
+        Check.dueGroups(desk, 15, 15, 15, 15);
         for (int house : wrong(4, 5, 15)) {
             Check.due("group(" + house + ")", desk.group(house), NONE);
         }
     }
 
     private static void groupsForgotten() {
+        Check.dueGroups(new TariffDesk(), NONE, NONE, NONE, NONE);
         TariffDesk desk = Check.deskWith("plan a fee 1;", 1);
-        dueGroups(desk, NONE, NONE, NONE, NONE);
+        Check.dueGroups(desk, NONE, NONE, NONE, NONE);
         desk.best(15, 0, 24);
-        dueGroups(desk, NONE, NONE, NONE, NONE);
+        Check.dueGroups(desk, NONE, NONE, NONE, NONE);
         desk.bills();
-        dueGroups(desk, 15, 15, 15, 15);
+        Check.dueGroups(desk, 15, 15, 15, 15);
         Check.due("a FAULT", Check.plans(desk, "plan a fee"), -11);
-        dueGroups(desk, 15, 15, 15, 15);
+        Check.dueGroups(desk, 15, 15, 15, 15);
         Check.due("the same PLANS", Check.plans(desk, "plan a fee 1;"), 1);
-        dueGroups(desk, NONE, NONE, NONE, NONE);
+        Check.dueGroups(desk, NONE, NONE, NONE, NONE);
         Check.uses(desk, 0, 0, 0, 1);
         Check.due("none", desk.bills(), NONE);
-        dueGroups(desk, NONE, NONE, NONE, NONE);
+        Check.dueGroups(desk, NONE, NONE, NONE, NONE);
     }
 
     // --- 18 span, 19 above

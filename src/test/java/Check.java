@@ -112,6 +112,12 @@ final class Check {
         }
     }
 
+    static void dueGroups(TariffDesk desk, int... groups) {
+        for (int house = 0; house < 4; house++) {
+            due("group(" + house + ")", desk.group(house), groups[house]);
+        }
+    }
+
     /** So many PLANS, named a, b, c and so on, of thirteen bytes each. */
     static String manyPlans(int count) {
         StringBuilder text = new StringBuilder();

@@ -417,6 +417,17 @@ public final class MeaningEdgesTest {
         Check.uses(bound, 0, 0, 1, 1, 1);
         Check.due("dearer at first", bound.best(1, 0, 3), 6);
         Check.dueRow(bound, 0, 1, 1, 1);
+        // Each of ten PLANS is cheaper than the one ahead and begins in a MONTH of its own.
+        StringBuilder text = new StringBuilder();
+        for (int p = 0; p < 10; p++) {
+            text.append("plan ").append((char) ('a' + p)).append(" fee ").append(50 - p)
+                    .append(" from ").append(p).append(" until ").append(p).append(";");
+        }
+        TariffDesk ten = Check.deskWith(text.toString(), 10);
+        Check.due("ten PLANS", ten.best(1, 0, 10), 500 - 45);
+        Check.dueRow(ten, 0, 0, 1, 2, 3, 4, 5, 6, 7, 8, 9);
+        Check.due("the tenth one alone", ten.best(1, 9, 24), 15 * 41);
+        Check.dueRow(ten, 9, alike(15, 9));
         TariffDesk nothing = Check.deskWith("plan a fee 0;", 1);
         Check.due("0 is a COST", nothing.best(1, 0, 24), 0);
         Check.dueRow(nothing, 0, alike(24, 0));
@@ -470,12 +481,6 @@ public final class MeaningEdgesTest {
         return desk;
     }
 
-    private static void dueGroups(TariffDesk desk, int... groups) {
-        for (int house = 0; house < 4; house++) {
-            Check.due("group(" + house + ")", desk.group(house), groups[house]);
-        }
-    }
-
     /** All fifteen partings, each as the only cheapest one. */
     private static void everyParting() {
         int partings = 0;
@@ -497,7 +502,7 @@ public final class MeaningEdgesTest {
                     }
                 }
                 Check.due("a fee for each group", desk.bills(), 24 * (most + 1));
-                dueGroups(desk, groups);
+                Check.dueGroups(desk, groups);
             }
         }
         Check.due("partings", partings, 15);
@@ -509,7 +514,7 @@ public final class MeaningEdgesTest {
             Check.uses(desk, 0, 0, month, 1);
             Check.uses(desk, 3, 0, month, 1);
             Check.due("MONTH " + month, desk.bills(), 48);
-            dueGroups(desk, 1, 14, 14, 14);
+            Check.dueGroups(desk, 1, 14, 14, 14);
         }
         for (int month = 0; month < 24; month++) {
             TariffDesk desk = Check.deskWith("plan a fee 1 for 0 rest 1;", 1);
@@ -522,7 +527,7 @@ public final class MeaningEdgesTest {
         Check.uses(desk, 1, 0, 0, 1, 1, 0);
         Check.uses(desk, 2, 0, 0, 0, 1, 0);
         Check.due("two groups", desk.bills(), 480);
-        dueGroups(desk, 5, 10, 5, 10);
+        Check.dueGroups(desk, 5, 10, 5, 10);
     }
 
     private static void leastBills() {
@@ -532,10 +537,10 @@ public final class MeaningEdgesTest {
             Check.uses(desk, house, 0, 0, 1);
         }
         Check.due("together is cheaper by one each", desk.bills(), 48 + 3 * 47);
-        dueGroups(desk, 15, 15, 15, 15);
+        Check.dueGroups(desk, 15, 15, 15, 15);
         Check.due("PLANS", Check.plans(desk, "plan a fee 2 for 0 free 1 rest 49;"), 1);
         Check.due("apart is cheaper by one each", desk.bills(), 4 * 48);
-        dueGroups(desk, 1, 2, 4, 8);
+        Check.dueGroups(desk, 1, 2, 4, 8);
         // SWITCH and terms count as in BEST: one bill has one change.
         TariffDesk changes = Check.deskWith("plan a fee 0 for 0 rest 0;plan b fee 0 for 1 rest 0;", 2);
         for (int house = 0; house < 4; house++) {
@@ -544,10 +549,10 @@ public final class MeaningEdgesTest {
         }
         changes.change(3);
         Check.due("one change", changes.bills(), 3);
-        dueGroups(changes, 15, 15, 15, 15);
+        Check.dueGroups(changes, 15, 15, 15, 15);
         changes.change(0);
         Check.due("0 is a sum", changes.bills(), 0);
-        dueGroups(changes, 1, 2, 4, 8);
+        Check.dueGroups(changes, 1, 2, 4, 8);
         TariffDesk most = Check.deskWith("plan a fee 999999 for 0 rest 9999 for 1 rest 9999 for 2 rest 9999 for 3 rest 9999;", 1);
         for (int k = 0; k < 16; k++) {
             Check.uses(most, k / 4, k % 4, 0, alike(24, 20000));
@@ -568,14 +573,14 @@ public final class MeaningEdgesTest {
             Check.uses(pairs, house, 0, 0, 1);
         }
         Check.due("pairs", pairs.bills(), 48);
-        dueGroups(pairs, 3, 3, 12, 12);
+        Check.dueGroups(pairs, 3, 3, 12, 12);
         // HOUSES 0 and 1 never fit: 5 and 10, 9 and 6 are left.
         Check.uses(pairs, 0, 1, 0, 0);
         Check.due("PLANS", Check.plans(pairs, "plan a fee 1 for 0 free 2 rest 1000 for 1 free 1 rest 1000;"), 1);
         Check.uses(pairs, 0, 1, 0, 1);
         Check.uses(pairs, 1, 1, 0, 1);
         Check.due("other pairs", pairs.bills(), 48);
-        dueGroups(pairs, 5, 10, 5, 10);
+        Check.dueGroups(pairs, 5, 10, 5, 10);
         // 7 and 8 is ahead of 9 and 6, as bits are a number.
         TariffDesk three = Check.deskWith("plan a fee 1 for 0 free 2 rest 1000;", 1);
         Check.uses(three, 1, 0, 0, 1);
@@ -585,7 +590,7 @@ public final class MeaningEdgesTest {
         Check.uses(three, 2, 0, 1, 1);
         Check.uses(three, 3, 0, 1, 2);
         Check.due("7 or 9", three.bills(), 48);
-        dueGroups(three, 7, 7, 7, 8);
+        Check.dueGroups(three, 7, 7, 7, 8);
     }
 
     private static void nextGroups() {
@@ -593,19 +598,19 @@ public final class MeaningEdgesTest {
         TariffDesk alone = Check.deskWith("plan a fee 0 for 0 rest 1 for 1 rest 1;", 1);
         Check.uses(alone, 1, 0, 0, 1);
         Check.due("all are like", alone.bills(), 1);
-        dueGroups(alone, 1, 2, 4, 8);
+        Check.dueGroups(alone, 1, 2, 4, 8);
         // Two groups, HOUSE 0 is alone in one: the three others are left.
         TariffDesk desk = Check.deskWith("plan a fee 1 for 0 free 2 rest 1000;", 1);
         Check.uses(desk, 0, 0, 0, 2);
         Check.uses(desk, 1, 0, 0, 1);
         Check.uses(desk, 2, 0, 0, 1);
         Check.due("two groups", desk.bills(), 48);
-        dueGroups(desk, 1, 14, 14, 14);
+        Check.dueGroups(desk, 1, 14, 14, 14);
         // Three groups, HOUSE 0 alone: 6 8 and 10 4 are like, and 2 12 too: the least is 2.
         Check.uses(desk, 1, 0, 0, 2);
         Check.uses(desk, 2, 0, 0, 2);
         Check.due("three groups", desk.bills(), 72);
-        dueGroups(desk, 1, 2, 12, 12);
+        Check.dueGroups(desk, 1, 2, 12, 12);
         // HOUSE 2 fits to HOUSE 1 alone.
         TariffDesk bound = Check.deskWith("plan a fee 1 for 0 free 2 rest 1000 for 1 free 1 rest 1000;", 1);
         Check.uses(bound, 0, 0, 0, 2);
@@ -615,7 +620,7 @@ public final class MeaningEdgesTest {
         Check.uses(bound, 2, 1, 0, 1);
         Check.uses(bound, 3, 1, 0, 1);
         Check.due("three groups", bound.bills(), 72);
-        dueGroups(bound, 1, 6, 6, 8);
+        Check.dueGroups(bound, 1, 6, 6, 8);
     }
 
     // --- SPANS and ABOVE
@@ -669,6 +674,14 @@ public final class MeaningEdgesTest {
             }
         }
         Check.due("a corner within", cents[20], 82);
+        // Turns where free units end, of the one PLAN and of the other.
+        TariffDesk free = Check.deskWith("plan a fee 0 for 0 rest 5;plan b fee 0 for 0 free 20 rest 10;", 2);
+        int[][] spans = {{0, 100}, {0, 20}, {19, 21}, {20, 20}, {20, 100}, {0, 19}, {21, 22}};
+        long[][] want = {{-300, 100}, {0, 100}, {95, 100}, {100, 100}, {-300, 100}, {0, 95}, {90, 95}};
+        for (int k = 0; k < spans.length; k++) {
+            free.span(0, spans[k][0], spans[k][1]);
+            dueAbove(free, want[k][0], want[k][1]);
+        }
     }
 
     private static void toldIf() {

@@ -442,6 +442,13 @@ public final class TextEdgesTest {
         dueFault(HEAD + "for 0000000 rest 1;", 17, 1);
         dueFault(HEAD + "for 0 rest 1 for 0000000 rest 1;", 30, 1);
         dueFault(PART + "rest 9999999;", 24, 1);
+        // What is no NUMBER can't be one that is too small.
+        dueFault(HEAD + "term !;", 18, 1);
+        dueFault(HEAD + "term a;", 18, 1);
+        dueFault(HEAD + "from 5 until !;", 26, 1);
+        dueFault(HEAD + "from 5 until ;", 26, 1);
+        dueFault(PART + "to !;", 22, 1);
+        dueFault(PART + "to 5 at 1 to -1 at 1;", 32, 1);
         dueFault("plan abcdefgh fee 5;plan abcdefghi fee 5;", 25, 1);
         dueFault("plan a fee 5;plan a1 fee 5;", 18, 1);
         dueFault("plan a fee 5 a", 13, 1);
