@@ -265,50 +265,72 @@ final class Model {
         return sum;
     }
 
-    /** BEST for many MONTHS, where not all rows can be tried: the same, kept by MONTH, PLAN and MONTHS that it lasts. */
-    long longBest(int houses, int from, int to) {
-        long[][][] kept = new long[25][plans.size()][25];
-        for (long[][] some : kept) {
-            for (long[] few : some) {
-                Arrays.fill(few, -1);
-            }
+    /** A ROW for many MONTHS, and what it costs. */
+    static final class LongRow {
+        final long cents;
+        final int[] plans;
+
+        LongRow(long cents, int[] plans) {
+            this.cents = cents;
+            this.plans = plans;
         }
+
+        LongRow with(long more, int p) {
+            int[] longer = Arrays.copyOf(plans, plans.length + 1);
+            longer[plans.length] = p;
+            return new LongRow(cents + more, longer);
+        }
+
+        boolean isAheadOf(LongRow other) {
+            if (other == null || cents != other.cents) {
+                return other == null || cents < other.cents;
+            }
+            return Arrays.compare(plans, other.plans) < 0;
+        }
+    }
+
+    /**
+     * BEST for many MONTHS, where not all rows can be tried: of those that end alike (in the same PLAN, which lasts as
+     * long) the first is kept, MONTH by MONTH from the first one on. Null: there is none.
+     */
+    LongRow longBest(int houses, int from, int to) {
+        LongRow[][] kept = new LongRow[plans.size()][25];
         for (int p = 0; p < plans.size(); p++) {
-            if (plans.get(p).from <= from && from <= plans.get(p).until) {
-                kept[from][p][1] = cost(p, houses, from);
+            long cents = cost(p, houses, from);
+            if (cents >= 0 && plans.get(p).from <= from && from <= plans.get(p).until) {
+                kept[p][1] = new LongRow(cents, new int[] {p});
             }
         }
-        for (int month = from; month + 1 < to; month++) {
-            for (int p = 0; p < plans.size(); p++) {
-                for (int lasted = 1; lasted <= 24; lasted++) {
-                    if (kept[month][p][lasted] >= 0) {
-                        goOn(kept, houses, month, p, lasted);
-                    }
-                }
-            }
+        for (int month = from + 1; month < to; month++) {
+            kept = goOn(kept, houses, month);
         }
-        long best = -1;
-        for (long[] some : kept[to - 1]) {
-            for (long cents : some) {
-                best = cents >= 0 && (best < 0 || cents < best) ? cents : best;
+        LongRow best = null;
+        for (LongRow[] some : kept) {
+            for (LongRow row : some) {
+                best = row != null && row.isAheadOf(best) ? row : best;
             }
         }
         return best;
     }
 
-    private void goOn(long[][][] kept, int houses, int month, int p, int lasted) {
+    private LongRow[][] goOn(LongRow[][] kept, int houses, int month) {
+        LongRow[][] next = new LongRow[plans.size()][25];
         for (int q = 0; q < plans.size(); q++) {
             ModelPlan plan = plans.get(q);
-            long cents = cost(q, houses, month + 1);
-            boolean may = q == p || lasted >= plans.get(p).term && plan.from <= month + 1 && month + 1 <= plan.until;
-            if (cents < 0 || !may) {
-                continue;
+            long cents = cost(q, houses, month);
+            boolean begins = plan.from <= month && month <= plan.until;
+            for (int p = 0; cents >= 0 && p < plans.size(); p++) {
+                for (int lasted = 1; lasted <= 24; lasted++) {
+                    boolean may = q == p || begins && lasted >= plans.get(p).term;
+                    if (kept[p][lasted] != null && may) {
+                        int lasts = q == p ? lasted + 1 : 1;
+                        LongRow row = kept[p][lasted].with(cents + (q == p ? 0 : switchCents), q);
+                        next[q][lasts] = row.isAheadOf(next[q][lasts]) ? row : next[q][lasts];
+                    }
+                }
             }
-            int lasts = q == p ? Math.min(24, lasted + 1) : 1;
-            long sum = kept[month][p][lasted] + cents + (q == p ? 0 : switchCents);
-            long old = kept[month + 1][q][lasts];
-            kept[month + 1][q][lasts] = old < 0 || sum < old ? sum : old;
         }
+        return next;
     }
 
     // --- BILLS
@@ -317,7 +339,8 @@ final class Model {
     long[] bills() {
         long[] bests = new long[16];
         for (int houses = 1; houses <= 15; houses++) {
-            bests[houses] = longBest(houses, 0, 24);
+            LongRow best = longBest(houses, 0, 24);
+            bests[houses] = best == null ? -1 : best.cents;
         }
         long[] best = null;
         for (int code = 0; code < 256; code++) {
