@@ -1,15 +1,12 @@
 import java.io.ByteArrayOutputStream;
 import java.io.IOException;
 import java.io.PrintStream;
-import java.net.URL;
-import java.net.URLClassLoader;
 import java.nio.file.Files;
 import java.nio.file.Path;
 import java.util.ArrayList;
 import java.util.List;
 import java.util.regex.Matcher;
 import java.util.regex.Pattern;
-import java.util.stream.Stream;
 import javax.tools.ToolProvider;
 
 /** The program in README.md compiles, and each line of it prints what stands behind the line. */
@@ -36,31 +33,22 @@ public final class ReadmeTest {
         Check.finish();
     }
 
+    /** It is made where the compiled class stands, so that the two see each other. */
     private static List<String> run(String program) throws IOException, ReflectiveOperationException {
-        Path made = Files.createTempDirectory("readme");
+        Path made = Path.of(System.getProperty("java.class.path"));
+        Path source = Files.writeString(made.resolve("Example.java"), program);
+        int failed = ToolProvider.getSystemJavaCompiler().run(null, null, null, "--release", "17", "-implicit:none",
+                "-cp", made.toString(), "-d", made.toString(), source.toString());
+        Check.due("javac of the program", failed, 0);
         PrintStream before = System.out;
         ByteArrayOutputStream printed = new ByteArrayOutputStream();
-        try (URLClassLoader loader = new URLClassLoader(new URL[] {made.toUri().toURL()})) {
-            Path source = Files.writeString(made.resolve("Example.java"), program);
-            int failed = ToolProvider.getSystemJavaCompiler().run(null, null, null, "--release", "17", "-implicit:none",
-                    "-cp", System.getProperty("java.class.path"), "-d", made.toString(), source.toString());
-            Check.due("javac of the program", failed, 0);
-            System.setOut(new PrintStream(printed, true));
-            loader.loadClass("Example").getMethod("main", String[].class).invoke(null, (Object) new String[0]);
+        System.setOut(new PrintStream(printed, true));
+        try {
+            Class.forName("Example").getMethod("main", String[].class).invoke(null, (Object) new String[0]);
         } finally {
             System.setOut(before);
-            remove(made);
         }
         return printed.toString().lines().toList();
-    }
-
-    private static void remove(Path directory) throws IOException {
-        try (Stream<Path> files = Files.list(directory)) {
-            for (Path file : files.toList()) {
-                Files.delete(file);
-            }
-        }
-        Files.delete(directory);
     }
 
     /** In the program and in the table of calls. */
